@@ -257,14 +257,16 @@ public final class HearsayOrchestra {
                 return hall.afters[player];
             case 7:
                 return hall.wrongs[player];
-            case 8:
-                return conductor.loudestFor(hall, player);
             default:
-                return toldOf(player, what);
+                return heardBy(player, what);
         }
     }
 
-    private int toldOf(int player, int what) {
+    private int heardBy(int player, int what) {
+        if (what == 8) {
+            conductor.attend();
+            return conductor.loudestFor(player);
+        }
         if (!within(what, 10, 69)) {
             return NO_SUCH_PLAYER;
         }
@@ -272,7 +274,8 @@ public final class HearsayOrchestra {
         if (other == player || !world.hall.has(other)) {
             return NO_SUCH_PLAYER;
         }
-        return conductor.ask(world.hall, HEARS + (what - 10) / 20, player, other);
+        conductor.attend();
+        return conductor.ask(HEARS + (what - 10) / 20, player, other);
     }
 
     public int seat(int x, int y, int what) {
@@ -676,6 +679,9 @@ public final class HearsayOrchestra {
         }
 
         private int pillarsBetween(int a, int b) {
+            if (pillars == 0) {
+                return 0;
+            }
             int left = Math.min(xs[a], xs[b]);
             int wide = Math.abs(xs[a] - xs[b]) + 1;
             int low = Math.min(ys[a], ys[b]);
@@ -688,8 +694,14 @@ public final class HearsayOrchestra {
             return many;
         }
 
+        /** What the law's words stand for whoever listens. */
+        void weighAll(int[] values) {
+            values[SOUNDING - LOUD] = sounding();
+            values[BEAT - LOUD] = beat;
+        }
+
         /** What the law's words stand for when one listens to another one. */
-        void weigh(int listener, int other, int[] values) {
+        void weighPair(int listener, int other, int[] values) {
             values[LOUD - LOUD] = louds[other];
             values[EAR - LOUD] = ears[listener];
             values[FAR - LOUD] = Math.abs(xs[listener] - xs[other]) + Math.abs(ys[listener] - ys[other]);
@@ -697,8 +709,6 @@ public final class HearsayOrchestra {
             values[OFF - LOUD] = Math.abs(offs[listener] - offs[other]);
             values[NOTE - LOUD] = notes[other];
             values[WRONG - LOUD] = wrongs[listener];
-            values[SOUNDING - LOUD] = sounding();
-            values[BEAT - LOUD] = beat;
         }
     }
 
@@ -1315,7 +1325,9 @@ public final class HearsayOrchestra {
             if (tape.value(at) == 0) {
                 return fail(CANT_BE);
             }
-            return readUnit();
+            law.put(tape.value(at));
+            at++;
+            return true;
         }
     }
 
@@ -1371,17 +1383,23 @@ public final class HearsayOrchestra {
             this.real = real;
         }
 
-        int ask(Hall then, int word, int listener, int other) {
-            then.weigh(listener, other, values);
+        /** From now on all is asked as the hall is now, whatever changes in it. */
+        void attend() {
+            before.copy(hall);
+            before.weighAll(values);
+        }
+
+        int ask(int word, int listener, int other) {
+            before.weighPair(listener, other, values);
             return world.law.tell(word, values);
         }
 
-        int loudestFor(Hall then, int listener) {
+        int loudestFor(int listener) {
             int loudest = NONE;
             int most = 0;
-            for (int p = 0; p < then.count; p++) {
-                if (p != listener && then.notes[p] != NONE) {
-                    int heard = ask(then, HEARS, listener, p);
+            for (int p = 0; p < before.count; p++) {
+                if (p != listener && before.notes[p] != NONE) {
+                    int heard = ask(HEARS, listener, p);
                     if (heard > most) {
                         most = heard;
                         loudest = p;
@@ -1394,7 +1412,7 @@ public final class HearsayOrchestra {
         /** One beat: how many notes slipped. */
         int goOn() {
             setStage();
-            before.copy(hall);
+            attend();
             int slipped = 0;
             for (int p = 0; p < before.count; p++) {
                 slipped += play(p) ? 1 : 0;
@@ -1442,7 +1460,7 @@ public final class HearsayOrchestra {
         /** Whether his note slipped. */
         private boolean play(int p) {
             int written = world.score.lastNoteFor(p, before.beat);
-            int leader = written == NONE ? loudestFor(before, p) : NONE;
+            int leader = written == NONE ? loudestFor(p) : NONE;
             boolean slipped = false;
             hall.afters[p] = leader;
             if (leader == NONE) {
@@ -1464,10 +1482,10 @@ public final class HearsayOrchestra {
 
         private boolean follow(int p, int leader) {
             int apart = before.offs[leader] - before.offs[p];
-            int bend = Math.min(Math.abs(apart), ask(before, BENDS, p, leader));
+            int bend = Math.min(Math.abs(apart), ask(BENDS, p, leader));
             hall.offs[p] = before.offs[p] + (apart < 0 ? -bend : bend);
             hall.notes[p] = before.notes[leader];
-            if (!slips(ask(before, SLIPS, p, leader))) {
+            if (!slips(ask(SLIPS, p, leader))) {
                 return false;
             }
             hall.notes[p] = (before.notes[leader] + 1) % OCTAVE;
