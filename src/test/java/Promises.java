@@ -201,6 +201,8 @@ public final class Promises {
         good(x, 3, "pillar 5 5;", 1);
         due("own seat", x.act(0, 0, 0), false);
         due("another's seat", x.act(0, 0, 2), false);
+        due("seat 1", x.act(0, 0, 1), true);
+        due("seat 0", x.act(0, 0, 0), true);
         due("pillar", x.act(0, 0, 45), false);
         due("seat -1", x.act(0, 0, -1), false);
         due("seat 48", x.act(0, 0, 48), false);
@@ -600,6 +602,34 @@ public final class Promises {
         bad(nobody, 2, "at 0 hush 0;", 2, 10);
     }
 
+    /** What stood on the tape behind its end, or in an earlier text, does not count. */
+    private static void longTexts() {
+        HearsayOrchestra x = three();
+        feed(x, "at 0 player 0 note 12");
+        x.end(20);
+        due("text", x.text(1), NONE);
+        due("12 is cut to 1", x.fault(0), 1);
+        due("the end", x.fault(1), 20);
+        feed(x, "hears earx");
+        x.end(9);
+        due("text", x.text(0), NONE);
+        due("earx is cut to ear", x.fault(1), 9);
+        bad(x, 0, times(400, "("), 1, 0);
+        bad(x, 0, times(80, "hears"), 1, 0);
+        bad(x, 0, times(40, "1234567890"), 1, 0);
+        bad(x, 0, "hears 1" + times(196, "+1") + " ", 1, 400);
+        good(x, 0, times(400, " "), 0);
+        for (int i = 0; i < 5; i++) {
+            good(x, 0, "hears 1" + times(180, "+1") + "-" + i + " when 1<2;slips " + i + ";", 2);
+            due("long", x.of(0, 11), 181 - i);
+            due("long", x.of(0, 31), i);
+        }
+        good(x, 0, "slips 1 when 1=1" + times(47, " and 1=1") + ";", 1);
+        due("long", x.of(0, 31), 1);
+        good(x, 0, "slips 1 when 1=2" + times(53, " or 1=2") + " or 1=1;", 1);
+        due("long", x.of(0, 31), 1);
+    }
+
     private static void of() {
         HearsayOrchestra x = three();
         int none = NONE - 9999;
@@ -624,6 +654,10 @@ public final class Promises {
         due("from 2 2 to 0 0: 5", x.of(0, 12), 60 - 40 - 150);
         due("from 0 0 to 2 0: 1", x.of(1, 10), 180 - 20 - 30);
         due("from 2 0 to 2 2: 1", x.of(1, 12), 60 - 20 - 30);
+        good(x, 3, "", 0);
+        x.act(0, 0, 40);
+        x.act(0, 1, 31);
+        due("from 0 5 to 7 3", x.of(0, 11), 100 - 90);
         // The law's words.
         x = three();
         x.set(2, 0, -50);
@@ -670,6 +704,20 @@ public final class Promises {
         due("20 - 120 - 480", x.of(0, 11), -580);
         due("slips", x.of(0, 31), 20);
         due("slips", x.of(1, 30), 200);
+    }
+
+    private static void wrongs() {
+        HearsayOrchestra x = new HearsayOrchestra();
+        x.player(9, 0, 0, 0);
+        x.player(9, 0, 1, 0);
+        x.act(2, 0, 0);
+        tell(x, 0, "slips 1000;");
+        x.beats(3);
+        good(x, 0, "hears 10 * wrong + 1;", 1);
+        due("WRONG of 0, who followed once", x.of(0, 7), 1);
+        due("WRONG of 1, who followed twice", x.of(1, 7), 2);
+        due("his who listens", x.of(0, 11), 11);
+        due("his who listens", x.of(1, 10), 21);
     }
 
     private static void conditions(HearsayOrchestra x) {
@@ -984,6 +1032,26 @@ public final class Promises {
         due("0-4, 1-5, 2-6", x.canon(3, 0, 1), 3);
         due("2-5, 1-4 by 2", x.canon(2, 0, 1), 2);
         due("by 3", x.canon(0, 0, 2), 3);
+        due("none by 4: 0-5, 1-6", x.canon(4, 0, 1), 0);
+        x.tune(NONE);
+        int[] alike = {0, 1, 4, 5};
+        for (int v : alike) {
+            x.tune(v);
+        }
+        due("1-4", x.canon(1, 0, 1), 1);
+        due("0-4, 1-5", x.canon(2, 0, 1), 2);
+        due("5 higher: 2 by 1, none by 2, 1 by 3", x.canon(0, 5, 2), 1);
+        x.tune(NONE);
+        x.tune(0);
+        x.tune(3);
+        x.tune(4);
+        due("0-3", x.canon(1, 0, 1), 1);
+        due("0-4", x.canon(2, 0, 1), 1);
+        due("of several the least", x.canon(0, 0, 2), 1);
+        x.tune(NONE);
+        for (int v : notes) {
+            x.tune(v);
+        }
         due("1 higher: by 1", x.canon(0, 1, 2), 1);
     }
 
@@ -1172,6 +1240,8 @@ public final class Promises {
         due("no third", x.scale(1 | 128, 0), 0);
         due("no fifth", x.scale(1 | 16, 0), 0);
         due("none", x.scale(0, 1), 0);
+        due("C minor", x.scale(1 | 8 | 128, 1), 1);
+        due("is not C major", x.scale(1 | 8 | 128, 0), 0);
         due("all", x.scale(4095, 1), 12);
     }
 
@@ -1426,8 +1496,10 @@ public final class Promises {
         text();
         promise = 10;
         fault();
+        longTexts();
         promise = 11;
         of();
+        wrongs();
         promise = 12;
         seat();
         promise = 13;
