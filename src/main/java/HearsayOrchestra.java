@@ -1162,7 +1162,6 @@ public final class HearsayOrchestra {
         }
 
         private boolean readScoreLine() {
-            line[Sheet.KIND] = NOTE;
             return takeNumber(Sheet.AT_BEAT, LAST_WRITTEN_BEAT) && take(PLAYER) && takePlayer()
                     && take(NOTE) && takeNumber(Sheet.FIRST, OCTAVE - 1) && take(';') && sheet.add(line);
         }

@@ -421,9 +421,14 @@ public final class Promises {
         }
         due("more than 400", x.feed(1, 2, 3, 4, 5), NONE);
         due("end(400)", x.end(400), true);
+        due("end(381)", x.end(381), true);
+        due("401", x.feed(1, 2, 3, 4, 5), NONE);
+        due("nothing comes", x.end(382), false);
+        due("end(380)", x.end(380), true);
+        due("400", x.feed(0x20202020, 0x20202020, 0x20202020, 0x20202020, 0x20202020), 400);
         due("text", x.text(0), 0);
         due("feed", x.feed(0x20202020, 0, 0, 0, 0), 20);
-        due("end(381)", x.end(19), true);
+        due("end(19)", x.end(19), true);
         due("feed", x.feed(0, 0, 0, 0, 0), 39);
         for (int i = 0; i < 18; i++) {
             x.feed(0, 0, 0, 0, 0);
