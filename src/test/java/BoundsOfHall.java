@@ -119,6 +119,15 @@ public final class BoundsOfHall {
                 due(x.seat(corners[i][0], corners[i][1], 0), i);
             }
         });
+        Bench.test("PILLARS stand on some (by PILLARS; none at first).", () -> {
+            Counted x = Scenes.empty();
+            due(x.look(10), 0);
+            for (int place = 0; place < 48; place++) {
+                Bench.good(x, 3, "pillar " + place % 8 + " " + place / 8 + ";", 1);
+                due(x.seat(place % 8, place / 8, 1), 1);
+                due(x.look(10), 1);
+            }
+        });
         Bench.test("PLAYERS 0 .. 11 as they come", () -> {
             Counted x = Scenes.empty();
             for (int i = 0; i < 12; i++) {

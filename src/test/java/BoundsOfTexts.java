@@ -82,6 +82,30 @@ public final class BoundsOfTexts {
             x.feed(0x68656172, 0x7320313b, 0x78202020, BLANKS, BLANKS);
             yes(x.end(0));
             due(x.text(0), 0);
+            // What stood behind the end is gone: digits and letters that are cut go on no more.
+            Counted y = Scenes.three();
+            Bench.feed(y, "slips 12;");
+            yes(y.end(7));
+            none(y.text(0));
+            due(y.fault(1), 7);
+            Bench.feed(y, "slips 12345;");
+            yes(y.end(10));
+            none(y.text(0));
+            due(y.fault(1), 10);
+            Bench.feed(y, "slips 12345;");
+            yes(y.end(10));
+            y.feed(0x3b202020, BLANKS, BLANKS, BLANKS, BLANKS);
+            due(y.text(0), 1);
+            due(y.of(0, 31), 1000);
+            Bench.feed(y, "slips earx");
+            yes(y.end(9));
+            y.feed(0x3b202020, BLANKS, BLANKS, BLANKS, BLANKS);
+            due(y.text(0), 1);
+            due(y.of(0, 31), 5);
+            Bench.feed(y, "slips ear");
+            yes(y.end(8));
+            none(y.text(0));
+            due(y.fault(1), 6);
         });
     }
 
@@ -427,6 +451,84 @@ public final class BoundsOfTexts {
         });
     }
 
+    private static final String[] SO = {"1=1", "1<2", "2>1"};
+    private static final String[] NOT_SO = {"1=2", "1<1", "2>2", "2<1", "1>2"};
+
+    private static String clause(boolean so, int i) {
+        return so ? SO[i % SO.length] : NOT_SO[i % NOT_SO.length];
+    }
+
+    /** Each form with each comparison in each place, so or not. */
+    private static void form(String form, int due) {
+        for (int i = 0; i < 5; i++) {
+            Counted x = Scenes.three();
+            for (int bits = 0; bits < 8; bits++) {
+                String b = form.replace("A", clause((bits & 1) != 0, i)).replace("B", clause((bits & 2) != 0, i + 1))
+                        .replace("C", clause((bits & 4) != 0, i + 2));
+                good(x, 0, "slips 1 when " + b + ";slips 2;", 2);
+                due(x.of(0, 31), (due >> bits & 1) == 1 ? 1 : 2);
+            }
+        }
+    }
+
+    private static void grammar() {
+        Bench.test("B = A {or A}.  A = C {and C}.  C = E (< | = | >) E | not C | ( B ).", () -> {
+            // Bit 4 c + 2 b + a of the number tells whether the form is so.
+            form("A and B", 0x88);
+            form("A or B", 0xee);
+            form("not A", 0x55);
+            form("not not A", 0xaa);
+            form("A or B and C", 0xea);
+            form("A and B or C", 0xf8);
+            form("(A or B) and C", 0xe0);
+            form("A and (B or C)", 0xa8);
+            form("not A and B", 0x44);
+            form("not A or B", 0xdd);
+            form("not (A or B)", 0x11);
+            form("not (A and B) or C", 0xf7);
+            form("A and B and C", 0x80);
+            form("A or B or C", 0xfe);
+            form("A and not B or not C", 0x2f);
+        });
+        Bench.test("E = T {(+ | -) T}.  T = U {* U | / NUMBER}.  U = NUMBER | loud | ear | far | pillars | off | note | wrong | sounding | beat.", () -> {
+            Counted x = Scenes.three();
+            String[] sums = {"10-3-2", "2*3/4*5", "7/2*2", "100-2*3+20/3/2", "1+2*3", "0-0", "5-5*1", "8/2/2", "2*2*2-1-1-1"};
+            int[] values = {5, 5, 6, 97, 7, 0, 0, 2, 5};
+            for (int i = 0; i < sums.length; i++) {
+                good(x, 0, "hears " + sums[i] + ";", 1);
+                due(x.of(0, 11), values[i]);
+            }
+            bad(x, 0, "hears 1+(2);", 1, 8);
+            bad(x, 0, "hears -1;", 1, 6);
+            bad(x, 0, "hears 1--1;", 1, 8);
+            bad(x, 0, "hears +1;", 1, 6);
+            bad(x, 0, "hears 1*-1;", 1, 8);
+            bad(x, 0, "hears;", 1, 5);
+            bad(x, 0, "hears when 1=1;", 1, 6);
+        });
+        Bench.test("0 THE LAW = {(hears | slips | bends) E [when B] ;}.", () -> {
+            // As much as the tape can take: sums, clauses and what is open, again and again.
+            Counted x = Scenes.three();
+            for (int i = 0; i < 4; i++) {
+                good(x, 0, "hears 1" + times(180, "+1") + "-" + i + " when 1<2;slips " + i + ";", 2);
+                due(x.of(0, 11), 181 - i);
+                due(x.of(0, 31), i);
+            }
+            good(x, 0, "slips 7 when 1=1" + times(47, " and 1=1") + ";", 1);
+            due(x.of(0, 31), 7);
+            good(x, 0, "slips 7 when 1=2" + times(53, " or 1=2") + " or 1=1;", 1);
+            due(x.of(0, 31), 7);
+            String deep = times(8, "1=2 or 1=1 and (");
+            good(x, 0, "slips 7 when " + deep + "1+2*3=7" + times(8, ")") + ";slips 8;", 2);
+            due(x.of(0, 31), 7);
+            good(x, 0, "slips 7 when " + deep + "1+2*3=9" + times(8, ")") + ";slips 8;", 2);
+            due(x.of(0, 31), 8);
+            good(x, 0, "slips 1;" + times(392, " "), 1);
+            good(x, 0, times(392, " ") + "slips 1;", 1);
+            due(x.of(0, 31), 1);
+        });
+    }
+
     private static void law() {
         Bench.test("Ints, which wrap; / goes towards 0.", () -> {
             Counted x = Scenes.three();
@@ -525,6 +627,13 @@ public final class BoundsOfTexts {
             due(x.of(0, 12), 1);
             due(x.of(0, 13), 1);
             due(x.of(2, 13), 2);
+            // Both away from the first row and column.
+            x.act(0, 0, 46);
+            x.act(0, 2, 38);
+            due(x.of(0, 11), 1);
+            due(x.of(0, 12), 1);
+            due(x.of(1, 12), 2);
+            due(x.of(1, 10), 1);
         });
         Bench.test("pillars: how many stand in the rectangle whose corners their SEATS are", () -> {
             Counted x = Scenes.empty();
@@ -619,6 +728,7 @@ public final class BoundsOfTexts {
         lines();
         tokens();
         faults();
+        grammar();
         law();
         Bench.close();
     }

@@ -612,9 +612,10 @@ public final class BoundsOfThought {
             due(x.quarrel(9, 0), 2);
             int[] unasked = {NONE, MIN, MAX, 0, 10};
             for (int b : unasked) {
+                due(x.quarrels(0), 9);
                 due(x.quarrel(NONE, b), 0);
                 due(x.quarrels(0), 10);
-                due(x.quarrel(3, 4), 1);
+                due(x.quarrel(0, 4), 1);
             }
             due(x.look(11), 1);
         });

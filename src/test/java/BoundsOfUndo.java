@@ -47,9 +47,15 @@ public final class BoundsOfUndo {
             due(x.look(5), drawn);
             due(x.look(2), 1);
             yes(x.act(3, 1, 0));
+            none(x.of(1, 6));
             yes(x.undo());
             due(x.look(1) >> 1 & 1, 1);
+            due(x.of(1, 6), 0);
             due(x.look(5), drawn);
+            yes(x.act(2, 1, 7));
+            none(x.of(1, 6));
+            yes(x.undo());
+            due(x.of(1, 6), 0);
             yes(x.undo());
             due(x.look(3), 0);
             due(x.look(4), 0);
@@ -256,7 +262,12 @@ public final class BoundsOfUndo {
                 due(x.of(11, 4), 6);
                 due(x.of(11, 5), -50);
                 due(x.desks(6, 0), 9);
+                due(x.series(0, 0, 0), 0);
                 due(x.series(0, 0, 1), 11);
+                due(x.book(0, 1), 1);
+                due(x.book(0, 3), 1);
+                // Of 2, 9 and 11, one seat away each, the least.
+                due(x.of(10, 6), 2);
                 due(x.canon(1, 0, 0), 1);
                 due(x.fingers(0), 15);
                 due(x.quarrels(0), 9);
@@ -283,6 +294,17 @@ public final class BoundsOfUndo {
             yes(x.image(false));
             due(x.of(0, 4), 4);
             no(x.undo());
+            // Lines of the book that were undone and written anew come back as they were.
+            yes(x.act(2, 0, 11));
+            x.beats(1);
+            due(x.book(0, 3), 11);
+            yes(x.image(true));
+            yes(x.undo());
+            yes(x.act(2, 0, 3));
+            x.beats(1);
+            due(x.book(0, 3), 3);
+            yes(x.image(false));
+            due(x.book(0, 3), 11);
             // Taken anew it is another one.
             yes(x.act(2, 0, 9));
             yes(x.image(true));
@@ -329,6 +351,7 @@ public final class BoundsOfUndo {
         x.finger(NONE);
         x.quarrel(NONE, 0);
         x.act(0, 0, 47);
+        x.act(3, 10, 0);
         x.act(3, 11, 0);
         x.note(5);
     }
@@ -378,11 +401,60 @@ public final class BoundsOfUndo {
         });
     }
 
+    /** Each call once on an object of which everything is known: what it does not change is as it was. */
+    private static void promised() {
+        Bench.test("Nothing is promised beyond the answers and state changes described above", () -> {
+            asked();
+            told();
+        });
+    }
+
+    private static void asked() {
+        Bench.Call[] calls = {x -> x.fault(0), x -> x.of(0, 8), x -> x.of(0, 11), x -> x.of(3, 50), x -> x.seat(0, 0, 0), x -> x.seat(1, 0, 1),
+            x -> x.book(7, 0), x -> x.goes(60, 1), x -> x.round(0, 47, 0), x -> x.round(0, 0, 1), x -> x.desks(6, 0), x -> x.desks(2, 1),
+            x -> x.chord(137, 0), x -> x.chord(145, 4), x -> x.series(2, 0, 0), x -> x.series(0, 0, NONE), x -> x.canon(1, 0, 0),
+            x -> x.canon(1, 0, 2), x -> x.twice(0), x -> x.twice(1), x -> x.hunt(3, 0, 1), x -> x.fingers(0), x -> x.fingers(1),
+            x -> x.quarrels(1), x -> x.quarrels(2), x -> x.bars(7, 0), x -> x.bars(7, 1), x -> x.scale(145, 0), x -> x.game(8, 3, 0),
+            x -> x.game(3, 2, 1), x -> x.look(3), x -> x.look(12), x -> x.end(20) ? 1 : 0};
+        // 59: by score one of four has another note at first, from BEAT 3 on all slip to one.
+        int[] answers = {2, 3, 148, 0, 0, 1,
+            1, 59, 12, 1, 18, 1,
+            137, 1, 9, 3, 4,
+            1, 2, 0, 1, 10, 0,
+            1, 1021, 3, 2, 1, 2,
+            2, 2, NONE - 99999, 1};
+        for (int i = 0; i < calls.length; i++) {
+            new Pinned().behind(calls[i], answers[i]);
+        }
+    }
+
+    private static void told() {
+        new Pinned().forgotten().but("look 5", 7).but("STATE behind it", 7).behind(x -> x.state(7), -1515193845);
+        new Pinned().forgotten().but("look 0", 5).behind(x -> x.player(1, 1, 7, 5), 4);
+        new Pinned().forgotten().but("of 3 0", 1).behind(x -> x.set(0, 3, 1) ? 1 : 0, 1);
+        new Pinned().forgotten().but("of 3 1", 9).behind(x -> x.set(1, 3, 9) ? 1 : 0, 1);
+        new Pinned().forgotten().but("of 3 5", 50).behind(x -> x.set(2, 3, 50) ? 1 : 0, 1);
+        new Pinned().but("order", 51234).but("desks", 13).but("image's desks", 15).behind(x -> x.cost(1, 0, 0) ? 1 : 0, 1);
+        new Pinned().but("series 4", 5).behind(x -> x.note(5), 5);
+        new Pinned().but("together 1", 5).but("together 2", 4).but("together 3", 3).but("together 4", 2)
+                .but("canon 2", 4).but("canon 3", 3).but("canon 4", 2).behind(x -> x.tune(8), 6);
+        new Pinned().but("fingers", 25).behind(x -> x.finger(0), 4);
+        new Pinned().but("peace", 8).but("peaceful", 1021 - 512).behind(x -> x.quarrel(9, 8), 3);
+        // The law that is empty then: 100 less 20 less 30.
+        new Pinned().but("tape", 0).but("hears then", 50).behind(x -> x.end(0) ? 1 : 0, 1);
+        new Pinned().but("tape", NONE).but("hears then", 148).behind(x -> x.feed(0, 0, 0, 0, 0), 40);
+        new Pinned().but("tape", 0).but("hears then", 50).but("look 6", 2).but("hears", 2).but("slips", 1).but("fault", 0).but("place", NONE)
+                .behind(x -> x.text(0), 2);
+        new Pinned().but("tape", 0).but("hears then", 50).but("fault", 1).but("place", 0).behind(x -> x.text(1), NONE);
+        new Pinned().but("tape", 0).but("hears then", 50).but("fault", 0).but("place", NONE).behind(x -> x.text(4), NONE);
+    }
+
     public static void main(String[] args) throws IOException {
         Bench.open(args);
         undo();
         image();
         look();
+        promised();
         Bench.close();
     }
 }

@@ -92,9 +92,13 @@ final class Bench {
     }
 
     static void due(int got, int want) {
+        due(call, got, want);
+    }
+
+    static void due(String told, int got, int want) {
         answers++;
         if (got != want) {
-            fail(call + " answered " + got + ", due is " + want + ", behind\n" + (asked == null ? "" : asked.run()));
+            fail(told + " answered " + got + ", due is " + want + ", behind\n" + (asked == null ? "" : asked.run()));
         }
     }
 
