@@ -49,6 +49,10 @@ final class Bench {
         document = Files.exists(path) ? plain(Files.readString(path)) : "";
     }
 
+    static String document() {
+        return document;
+    }
+
     static void close() {
         System.out.println(tests + " boundary tests, " + answers + " answers, " + wrong + " not as due");
         if (wrong != 0 || tests == 0) {
@@ -56,7 +60,7 @@ final class Bench {
         }
     }
 
-    private static String plain(String text) {
+    static String plain(String text) {
         return text.replaceAll("\\s+", " ");
     }
 
@@ -75,6 +79,11 @@ final class Bench {
         } catch (RuntimeException | StackOverflowError thrown) {
             fail(call + ", or what came behind it, threw " + thrown);
         }
+    }
+
+    /** What fails from now on is no sentence's test. */
+    static void about(String what) {
+        quote = what;
     }
 
     static void fail(String why) {
