@@ -38,15 +38,21 @@ public final class LanguageRules {
     private static void words(String code) {
         String[] ruledOut = {"\\bthrow\\b", "\\bthrows\\b", "\\btry\\b", "\\bcatch\\b", "\\bfinally\\b", "\\bsynchronized\\b",
             "\\bassert\\b", "->", "::", "\\bimport\\b", "\\bpackage\\b", "\\bvar\\b", "\\bobject\\b", "\\bfloat\\b",
-            "\\bdouble\\b", "\\bprotected\\b", "\"\"\\s*\\+", "\\+\\s*\"\"", "\\bThread\\b", "\\bRandom\\b", "\\bExact\\b",
-            "System\\.(?!arraycopy)", "\\bhashCode\\b", "\\btoString\\b", "\\bnull\\b", "\\bstatic\\s*\\{"};
+            "\\bdouble\\b", "\\bprotected\\b", "\"\"\\s*\\+", "\\+\\s*\"\"", "\\bThread\\b", "\\bRandom\\b", "Exact\\b",
+            "System\\.(?!arraycopy)", "\\bhashCode\\b", "\\btoString\\b", "\\bnull\\b", "\\bstatic\\s*\\{", "\\bwhile \\(true\\)",
+            "\\bfor \\([^:]*;\\s*;", "\\bnew \\w+\\([^;{]*\\) \\{", "\\[\\]\\s*\\[\\]\\s*\\["};
         for (String word : ruledOut) {
             Matcher m = Pattern.compile(word).matcher(code);
             no(m.find(), "the file has what is ruled out: " + word);
         }
-        for (int i = 0; i < code.length(); i++) {
-            no(code.charAt(i) > 126, "a sign above 126");
+    }
+
+    private static void signs(String source) {
+        for (int i = 0; i < source.length(); i++) {
+            char sign = source.charAt(i);
+            no(sign > 126 || sign < 32 && sign != '\n', "a sign of number " + (int) sign);
         }
+        no(source.contains("\\u"), "a sign by its number in a text");
     }
 
     private static void methodLengths(String source) {
@@ -145,6 +151,7 @@ public final class LanguageRules {
         Path root = Path.of(args.length > 0 ? args[0] : ".");
         String source = Files.readString(root.resolve("src/main/java/HearsayOrchestra.java"));
         words(withoutTexts(withoutComments(source)));
+        signs(source);
         methodLengths(source);
         face(HearsayOrchestra.class);
         inside(HearsayOrchestra.class);
